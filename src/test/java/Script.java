@@ -1,0 +1,81 @@
+/** A shell that is fed with written text: the names 0..15 are the letters a..p, a LONG ends in L. */
+final class Script {
+    static final String[] WORDS = (
+        "boolean byte char int long var if else while break continue return print true false "
+        + "( ) { } , ; = ! ~ + - * / % & | ^ << >> >>> < <= > >= == != && || "
+        + "+= -= *= /= %= &= |= ^= <<= >>= >>>=").split(" ");
+
+    final LooseShell shell;
+
+    Script(int ticks) {
+        shell = new LooseShell(ticks);
+    }
+
+    Script() {
+        this(400);
+    }
+
+    /** Puts the text in, and runs it; answers what run() did. */
+    int run(String text) {
+        put(text);
+        return shell.run();
+    }
+
+    /** Puts the text in; a token that the shell refuses is an error of the test. */
+    void put(String text) {
+        int at = 0;
+        while (at < text.length()) {
+            if (text.charAt(at) == ' ') {
+                at++;
+            } else {
+                String token = tokenAt(text, at);
+                if (!putToken(token)) {
+                    throw new IllegalStateException("the shell refused " + token + " in: " + text);
+                }
+                at += token.length();
+            }
+        }
+    }
+
+    boolean putToken(String token) {
+        char first = token.charAt(0);
+        if (Character.isDigit(first)) {
+            boolean wide = token.endsWith("L");
+            String digits = wide ? token.substring(0, token.length() - 1) : token;
+            return shell.number(Integer.parseInt(digits), wide);
+        }
+        if (token.length() == 1 && first >= 'a' && first <= 'p') {
+            return shell.name(first - 'a');
+        }
+        return shell.word(codeOf(token));
+    }
+
+    static int codeOf(String word) {
+        for (int i = 0; i < WORDS.length; i++) {
+            if (WORDS[i].equals(word)) {
+                return i;
+            }
+        }
+        throw new IllegalArgumentException("no such word: " + word);
+    }
+
+    private static String tokenAt(String text, int at) {
+        int end = at;
+        while (end < text.length() && Character.isLetterOrDigit(text.charAt(end))) {
+            end++;
+        }
+        if (end > at) {
+            return text.substring(at, end);
+        }
+        String best = "";
+        for (String word : WORDS) {
+            if (text.startsWith(word, at) && word.length() > best.length()) {
+                best = word;
+            }
+        }
+        if (best.isEmpty()) {
+            throw new IllegalArgumentException("no token at " + at + " of: " + text);
+        }
+        return best;
+    }
+}
