@@ -29,11 +29,11 @@ public final class LooseShell {
     private static final int LEAST_TICKS = 20, MOST_TICKS = 400;
     private static final int DECLARED_KIND = 8;
 
-    // No token makes more than two instructions on average of its statement, so the places of code follow from
-    // the counts of tokens; the text's code has one more, the halt.
+    // Every part of a text makes at most two instructions for each of its tokens, so room for code follows from
+    // the counts of tokens. Methods come first, then the text's own code with a halt at its end.
     private static final int CODE_PER_TOKEN = 2;
     private static final int TEXT_CODE = METHOD_TOKENS * CODE_PER_TOKEN;
-    private static final int CODE = TEXT_CODE + TEXT * CODE_PER_TOKEN + 2;
+    private static final int CODE = TEXT_CODE + TEXT * CODE_PER_TOKEN + 1;
 
     // Cells hold values: the globals, then the locals of the items and of every active call, then the operands.
     // An expression has fewer operands than tokens, and one expression is open in the items and in each call.
@@ -56,14 +56,19 @@ public final class LooseShell {
     // A method's sign: NAME, number of parameters and their KINDs in one number, so that equal signs are one method.
     private static final int SIGN_COUNT = 4, SIGN_KINDS = 6, SIGN_KIND_WIDTH = 3, SIGN_CALL_MASK = 63;
 
-    private static final int AT_START = 0, AT_FINISH = 1, AT_OPERAND = 2, AT_OPERATOR = 3, AT_END = 4;
+    // What the token that is read next must be or belong to.
+    private static final int AT_START = 0, AT_STATEMENT = 1, AT_DECLARATION = 2, AT_FINISH = 3, AT_OPERAND = 4, AT_OPERATOR = 5;
+    private static final int AT_END = 6;
 
-    // What is open around the token that is read.
+    // What is open around that token. With it is kept: of a block the number of locals outside of it; of all others
+    // an instruction that is needed at their end, to be aimed or for the place of its token.
     private static final int IN_ITEMS = 0, IN_BLOCK = 1, IN_METHOD = 2, IN_THEN = 3, IN_ELSE = 4, IN_LOOP = 5;
     private static final int IN_EXPRESSION = 6, IN_IF = 7, IN_WHILE = 8, IN_PRINT = 9, IN_RETURN = 10, IN_DECLARATION = 11;
     private static final int FRAMES = TEXT + 2;
 
     // How tightly the pending parts of an expression bind; binary operators stand between assignment and prefix.
+    // With them is kept: of a call the number of arguments; of an assignment the address; of a cast the KIND; of
+    // && and || the place of the instruction that may skip the right side.
     private static final int CALL_LEVEL = 0, GROUP_LEVEL = 1, ASSIGN_LEVEL = 2, PREFIX_LEVEL = 13;
 
     private final int tickLimit;
@@ -231,6 +236,8 @@ public final class LooseShell {
         for (int step = 0; step < READING_STEPS && state != AT_END && error == OK; step++) {
             switch (state) {
                 case AT_START: begin(); break;
+                case AT_STATEMENT: beginStatement(); break;
+                case AT_DECLARATION: beginDeclaration(); break;
                 case AT_FINISH: finish(); break;
                 case AT_OPERAND: readOperand(); break;
                 default: readOperator(); break;
@@ -314,9 +321,9 @@ public final class LooseShell {
         } else if (word == RIGHT_BRACE && frame == IN_BLOCK) {
             closeBlock();
         } else if (isKind(word) && listed) {
-            beginDeclaration();
+            state = AT_DECLARATION;
         } else {
-            beginStatement(word);
+            state = AT_STATEMENT;
         }
     }
 
@@ -344,8 +351,10 @@ public final class LooseShell {
         int place = pos;
         int kind = wordAt(place);
         int name = valueAt(place + 1);
+        int first = codeSize;
         boolean local = frameTop > 0;
         pos++;
+        state = AT_START;
         if (!local) {
             emit(DO_TICK, 0, 0, place);
         } else if (!addLocal(name, frameMore[frameTop])) {
@@ -359,7 +368,7 @@ public final class LooseShell {
         }
         if (filled) {
             pos++;
-            openFrame(IN_DECLARATION, place);
+            openFrame(IN_DECLARATION, first);
             startExpression();
         } else {
             expect(SEMICOLON);
@@ -412,6 +421,7 @@ public final class LooseShell {
         openFrame(IN_METHOD, codeSize);
         emit(DO_DEFINE, 0, sign * (KIND_BITS + 1) + kind, place);
         openFrame(IN_BLOCK, localCount);
+        state = AT_START;
     }
 
     private void readParameter() {
@@ -429,7 +439,8 @@ public final class LooseShell {
         }
     }
 
-    private void beginStatement(int word) {
+    private void beginStatement() {
+        int word = wordAt(pos);
         int tick = codeSize;
         emit(DO_TICK, 0, 0, pos);
         switch (word) {
@@ -440,6 +451,7 @@ public final class LooseShell {
             case LEFT_BRACE:
                 pos++;
                 openFrame(IN_BLOCK, localCount);
+                state = AT_START;
                 break;
             case IF: beginHeader(IN_IF, tick); break;
             case WHILE: beginHeader(IN_WHILE, tick); break;
@@ -456,12 +468,8 @@ public final class LooseShell {
     private void beginHeader(int frame, int tick) {
         openFrame(frame, tick);
         pos++;
-        if (wordAt(pos) == OPEN) {
-            pos++;
-            startExpression();
-        } else {
-            fault();
-        }
+        expect(OPEN);
+        startExpression();
     }
 
     private void readLoopJump(int word) {
@@ -476,12 +484,8 @@ public final class LooseShell {
             int distance = word == BREAK ? 0 : frameMore[loop] + 1 - codeSize;
             emit(DO_JUMP, distance, 0, pos);
             pos++;
+            expect(SEMICOLON);
             state = AT_FINISH;
-            if (wordAt(pos) == SEMICOLON) {
-                pos++;
-            } else {
-                fault();
-            }
         }
     }
 
@@ -765,61 +769,54 @@ public final class LooseShell {
         return answer;
     }
 
-    /** The frame tells what the expression stands in. */
+    /** The frame tells what the expression stands in, and so what must follow it. */
     private void endExpression() {
         if (pos - expressionStart > EXPRESSION) {
             fault();
         }
+        int frame = frameKind[frameTop];
         int more = frameMore[frameTop];
-        // Of those that the frame opened with a tick, the tick tells the first token's place.
-        int place = more >= 0 && more < CODE ? codePlace[more] : 0;
+        int place = codePlaceOf(more);
         int constant = constantSince(expressionStart);
-        state = AT_FINISH;
-        switch (frameKind[frameTop]) {
+        boolean condition = frame == IN_IF || frame == IN_WHILE;
+        state = condition ? AT_START : AT_FINISH;
+        if (condition || frame == IN_PRINT) {
+            expect(CLOSE);
+        }
+        if (!condition) {
+            closeFrame();
+            expect(SEMICOLON);
+        }
+        switch (frame) {
             case IN_IF: endCondition(IN_THEN, codeSize, place); break;
             case IN_WHILE: endCondition(IN_LOOP, more, place); break;
-            case IN_PRINT:
-                expect(CLOSE);
-                emit(DO_PRINT, 0, 0, place);
-                closeFrame();
-                expect(SEMICOLON);
-                break;
-            case IN_RETURN:
-                int kind = openMethodKind();
-                emit(DO_RETURN, 0, kind + constant, place);
-                closeFrame();
-                expect(SEMICOLON);
-                break;
-            case IN_DECLARATION:
-                endDeclaration(more, constant);
-                expect(SEMICOLON);
-                break;
-            default:
-                closeFrame();
-                emit(frameTop == 0 ? DO_RESULT : DO_DROP, 0, 0, place);
-                expect(SEMICOLON);
-                break;
+            case IN_PRINT: emit(DO_PRINT, 0, 0, place); break;
+            case IN_RETURN: endReturn(constant, place); break;
+            case IN_DECLARATION: endDeclaration(constant, place); break;
+            default: emit(frameTop == 0 ? DO_RESULT : DO_DROP, 0, 0, place); break;
         }
+    }
+
+    private int codePlaceOf(int code) {
+        return code >= 0 && code < CODE ? codePlace[code] : 0;
     }
 
     private void endCondition(int frame, int more, int place) {
-        emit(DO_UNLESS, 0, 0, place);
         frameKind[frameTop] = frame;
         frameMore[frameTop] = more;
-        state = AT_START;
-        if (wordAt(pos) == CLOSE) {
-            pos++;
-        } else {
-            fault();
-        }
+        emit(DO_UNLESS, 0, 0, place);
     }
 
-    private void endDeclaration(int place, int constant) {
+    private void endReturn(int constant, int place) {
+        int kind = openMethodKind();
+        emit(DO_RETURN, 0, kind + constant, place);
+    }
+
+    private void endDeclaration(int constant, int place) {
         int kind = wordAt(place);
         int name = valueAt(place + 1);
         int address = addressOf(name);
         emit(DO_DECLARE, address, kind + constant, place + 2);
-        closeFrame();
     }
 
     // ---- Running the code ----
@@ -891,7 +888,8 @@ public final class LooseShell {
     }
 
     private int cellOf(int address) {
-        return address < NAMES ? address : address + activeCalls * LOCALS;
+        int cell = address < NAMES ? address : address + activeCalls * LOCALS;
+        return cell >= 0 && cell < VARIABLES ? cell : 0;
     }
 
     private static int zeroKind(int kind) {

@@ -25,31 +25,61 @@ final class Checks {
         }
     }
 
-    /** A run of the text on that shell must end with this code at this place (-1 with OK). */
-    void run(Script script, String text, int code, int place) {
-        int answer = script.run(text);
-        same("run of: " + text, answer, code);
+    /**
+     * A run of the text on that shell must end with this code. An '@' in the text, which is not given to the shell,
+     * stands before the token whose place errorAt() must tell; without one, that must be -1.
+     */
+    void run(Script script, String text, int code) {
+        runInEarlier(script, text.replace("@", ""), code, text);
+    }
+
+    /** As above, but the '@' stands in the earlier text that has given the method in which the error is met. */
+    void runInEarlier(Script script, String text, int code, String marked) {
+        int mark = marked.indexOf('@');
+        int place = mark < 0 ? -1 : Script.tokensOf(marked.substring(0, mark)).size();
+        same("run of: " + text, script.run(text), code);
         same("errorAt of: " + text, script.shell.errorAt(), place);
     }
 
-    /** A run of the text on a new shell must end with this code at this place. */
-    void fails(String text, int code, int place) {
-        run(new Script(), text, code, place);
+    void run(String text, int code) {
+        run(new Script(), text, code);
+    }
+
+    void passes(Script script, String text) {
+        run(script, text, LooseShell.OK);
     }
 
     void passes(String text) {
-        run(new Script(), text, LooseShell.OK, -1);
+        run(text, LooseShell.OK);
+    }
+
+    void faulty(String text) {
+        run(text, LooseShell.SYNTAX);
     }
 
     /** On that shell the text must be OK, and its last expression have this value. */
     void gives(Script script, String text, int kind, long value) {
-        run(script, text, LooseShell.OK, -1);
-        same("resultKind of: " + text, script.shell.resultKind(), kind);
-        same("resultValue of: " + text, script.shell.resultValue(), value);
+        passes(script, text);
+        result(script, text, kind, value);
     }
 
     void gives(String text, int kind, long value) {
         gives(new Script(), text, kind, value);
+    }
+
+    void result(Script script, String text, int kind, long value) {
+        same("resultKind of: " + text, script.shell.resultKind(), kind);
+        same("resultValue of: " + text, script.shell.resultValue(), value);
+    }
+
+    void global(Script script, int n, int kind, long value) {
+        same("globalKind " + n, script.shell.globalKind(n), kind);
+        same("globalValue " + n, script.shell.globalValue(n), value);
+    }
+
+    void output(Script script, int i, int kind, long value) {
+        same("outputKind " + i, script.shell.outputKind(i), kind);
+        same("outputValue " + i, script.shell.outputValue(i), value);
     }
 
     void end() {

@@ -1,3 +1,6 @@
+import java.util.ArrayList;
+import java.util.List;
+
 /** A shell that is fed with written text: the names 0..15 are the letters a..p, a LONG ends in L. */
 final class Script {
     static final String[] WORDS = (
@@ -23,18 +26,26 @@ final class Script {
 
     /** Puts the text in; a token that the shell refuses is an error of the test. */
     void put(String text) {
+        for (String token : tokensOf(text)) {
+            if (!putToken(token)) {
+                throw new IllegalStateException("the shell refused " + token + " in: " + text);
+            }
+        }
+    }
+
+    static List<String> tokensOf(String text) {
+        List<String> tokens = new ArrayList<>();
         int at = 0;
         while (at < text.length()) {
             if (text.charAt(at) == ' ') {
                 at++;
             } else {
                 String token = tokenAt(text, at);
-                if (!putToken(token)) {
-                    throw new IllegalStateException("the shell refused " + token + " in: " + text);
-                }
+                tokens.add(token);
                 at += token.length();
             }
         }
+        return tokens;
     }
 
     boolean putToken(String token) {
