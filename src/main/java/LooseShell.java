@@ -40,7 +40,7 @@ public final class LooseShell {
     private static final int VARIABLES = NAMES + (CALLS + 1) * LOCALS;
     private static final int CELLS = VARIABLES + (CALLS + 1) * EXPRESSION;
 
-    // Every reading step takes a token, or ends something that a token has begun.
+    // Every reading step takes a token, or begins or ends one thing that a token stands for.
     private static final int READING_STEPS = 8 * TEXT;
     // Between two ticks, returns or loop ends (of which a run has at most 1200) code runs forward only.
     private static final int RUNNING_STEPS = 2000000;

@@ -96,6 +96,9 @@ public final class ExpressionTest {
         checks.gives("- 1L >>> 28 ;", LONG, -1L >>> 28);
         checks.gives("- 1L >> 63 ;", LONG, -1);
         checks.gives("( byte ) 255 >>> 28 ;", INT, 15);
+        checks.gives("8 << 1L ;", INT, 16);
+        checks.gives("8 >> 1L ;", INT, 4);
+        checks.gives("8 >>> 1L ;", INT, 4);
         checks.gives("( char ) 1 << ( byte ) 3 ;", INT, 8);
         checks.gives("a = 1L << 40 ; 1 << a + 2 ;", INT, 4);
     }
@@ -142,6 +145,8 @@ public final class ExpressionTest {
         checks.gives("false && 1 ;", BOOLEAN, 0);
         checks.gives("false && 1 / 0 == 0 || true ;", BOOLEAN, 1);
         checks.gives("true || a && b ;", BOOLEAN, 1);
+        checks.run("true && true ; @a ;", LooseShell.UNDEFINED);
+        checks.gives("int f ( int a , boolean b ) { return a ; } f ( 5 , true && true ) ;", INT, 5);
         checks.run("true && @a ;", LooseShell.UNDEFINED);
         checks.run("false || @a ;", LooseShell.UNDEFINED);
         checks.run("1 @&& true ;", KIND);
@@ -185,6 +190,12 @@ public final class ExpressionTest {
         checks.gives("4 ^ 6 & 3 ;", INT, 6);
         checks.gives("true | false ^ true ;", BOOLEAN, 1);
         checks.gives("2 == 2 & true ;", BOOLEAN, 1);
+        checks.gives("true & 2 == 2 ;", BOOLEAN, 1);
+        checks.gives("1 < 4 >> 1 ;", BOOLEAN, 1);
+        checks.gives("3 << 1 - 1 ;", INT, 3);
+        checks.gives("9 - 2 * 3 ;", INT, 3);
+        checks.gives("true ^ true & false ;", BOOLEAN, 1);
+        checks.gives("true | true ^ true ;", BOOLEAN, 1);
         checks.gives("true || true && false ;", BOOLEAN, 1);
         checks.gives("( true || true ) && false ;", BOOLEAN, 0);
         checks.gives("false && true | true ;", BOOLEAN, 0);

@@ -28,6 +28,7 @@ public final class MethodTest {
             checks.gives(kinds[kind] + " f ( ) { } f ( ) ;", due, 0);
             checks.gives(kinds[kind] + " f ( ) { return ; } f ( ) ;", due, 0);
         }
+        checks.gives("a = 5 ; int f ( ) { } f ( ) ; a ;", INT, 5);
         checks.gives("int f ( ) { while ( true ) { if ( true ) return 7 ; } } f ( ) ;", INT, 7);
         checks.gives("int f ( ) { { return 7 ; } return 8 ; } 1 + f ( ) * 2 ;", INT, 15);
         checks.run("int f ( ) { @return true ; } f ( ) ;", LooseShell.KIND);
@@ -145,10 +146,12 @@ public final class MethodTest {
         checks.run(script, "@" + method(6), LooseShell.FULL);
         checks.same("methods", script.shell.methods(), 1);
         checks.gives(script, "f ( ) ;", INT, 0);
-        script.shell.reset();
+        script = new Script();
         checks.passes(script, method(140));
         checks.passes(script, method(100));
         checks.run(script, "@int g ( ) { }", LooseShell.FULL);
+        script.shell.reset();
+        checks.passes(script, method(140));
         // One that the text has, but that was not reached, counts nothing.
         script = new Script();
         checks.run(script, "1 @/ 0 ; " + method(130), LooseShell.ZERO);

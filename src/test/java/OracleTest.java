@@ -3,6 +3,8 @@ import java.util.List;
 /** Many made texts, several for each shell: LooseShell must answer what the oracle answers. */
 public final class OracleTest {
     private static final int SHELLS = 20000, RUNS = 6;
+    /** What an object answers is promised for so many calls; a comparison makes at most 110 of them. */
+    private static final int CALLS = 512, COMPARISON = 110;
     private static final int[] TICKS = {400, 400, 400, 60, 20, -5, 1000};
 
     public static void main(String[] args) {
@@ -15,8 +17,13 @@ public final class OracleTest {
             int ticks = TICKS[maker.below(TICKS.length)];
             LooseShell shell = new LooseShell(ticks);
             Oracle oracle = new Oracle(ticks);
+            int calls = 0;
             for (int run = 0; run < RUNS; run++) {
                 List<Oracle.Token> text = run == 0 ? maker.makeGlobals() : maker.make();
+                calls += text.size() + COMPARISON;
+                if (calls > CALLS) {
+                    break;
+                }
                 String where = "seed " + (firstSeed + i) + " run " + run + ": ";
                 int code = oracle.run(text);
                 codes[code]++;
