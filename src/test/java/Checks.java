@@ -1,17 +1,34 @@
-/** Counts what was not as due, and says it. */
+/** Counts what was not as due, and says it, with the sentence of the document that asks for it. */
 final class Checks {
     private final String test;
+    private String sentence = "";
+    private int checkedInSentence = 1;
     private int wrong;
 
     Checks(String test) {
         this.test = test;
     }
 
-    void same(String what, long got, long due) {
-        if (got != due) {
-            wrong++;
-            System.out.println(test + ": " + what + " answered " + got + ", due is " + due);
+    /** What is checked from here on is what these words of the document ask for. */
+    void sentence(String words) {
+        endSentence();
+        sentence = words;
+        checkedInSentence = 0;
+    }
+
+    private void endSentence() {
+        if (checkedInSentence == 0) {
+            say("nothing was checked");
         }
+    }
+
+    private void say(String what) {
+        wrong++;
+        System.out.println(test + ": " + (sentence.isEmpty() ? "" : "<" + sentence + "> ") + what);
+    }
+
+    void same(String what, long got, long due) {
+        same(what, String.valueOf(got), String.valueOf(due));
     }
 
     void same(String what, boolean got, boolean due) {
@@ -19,9 +36,9 @@ final class Checks {
     }
 
     void same(String what, String got, String due) {
+        checkedInSentence++;
         if (!got.equals(due)) {
-            wrong++;
-            System.out.println(test + ": " + what + " answered " + got + ", due is " + due);
+            say(what + " answered " + got + ", due is " + due);
         }
     }
 
@@ -83,6 +100,7 @@ final class Checks {
     }
 
     void end() {
+        endSentence();
         System.out.println(wrong == 0 ? "all answers are as due" : wrong + " answers are not as due");
         if (wrong != 0) {
             System.exit(1);

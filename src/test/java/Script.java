@@ -3,6 +3,9 @@ import java.util.List;
 
 /** A shell that is fed with written text: the names 0..15 are the letters a..p, a LONG ends in L. */
 final class Script {
+    /** What answers() tells of a shell that has done nothing. */
+    static final String FRESH = "outputs 0:, errorAt -1, result -1/0, globals:, methods 0";
+
     static final String[] WORDS = (
         "boolean byte char int long var if else while break continue return print true false "
         + "( ) { } , ; = ! ~ + - * / % & | ^ << >> >>> < <= > >= == != && || "
@@ -31,6 +34,22 @@ final class Script {
                 throw new IllegalStateException("the shell refused " + token + " in: " + text);
             }
         }
+    }
+
+    /** All that can be asked of the shell, in one line; globals that are not there are left out. */
+    String answers() {
+        StringBuilder line = new StringBuilder("outputs " + shell.outputs() + ":");
+        for (int i = 0; i < shell.outputs(); i++) {
+            line.append(" " + shell.outputKind(i) + "/" + shell.outputValue(i));
+        }
+        line.append(", errorAt " + shell.errorAt());
+        line.append(", result " + shell.resultKind() + "/" + shell.resultValue() + ", globals:");
+        for (int n = 0; n < 16; n++) {
+            int kind = shell.globalKind(n);
+            long value = shell.globalValue(n);
+            line.append(kind == -1 && value == 0 ? "" : " " + (char) ('a' + n) + " " + kind + "/" + value);
+        }
+        return line + ", methods " + shell.methods();
     }
 
     static List<String> tokensOf(String text) {
