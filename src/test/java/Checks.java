@@ -42,6 +42,11 @@ final class Checks {
         }
     }
 
+    /** The shell must take every token of the text. */
+    void put(Script script, String text) {
+        same("taking: " + text, script.put(text), true);
+    }
+
     /**
      * A run of the text on that shell must end with this code. An '@' in the text, which is not given to the shell,
      * stands before the token whose place errorAt() must tell; without one, that must be -1.
@@ -54,7 +59,8 @@ final class Checks {
     void runInEarlier(Script script, String text, int code, String marked) {
         int mark = marked.indexOf('@');
         int place = mark < 0 ? -1 : Script.tokensOf(marked.substring(0, mark)).size();
-        same("run of: " + text, script.run(text), code);
+        put(script, text);
+        same("run of: " + text, script.shell.run(), code);
         same("errorAt of: " + text, script.shell.errorAt(), place);
     }
 

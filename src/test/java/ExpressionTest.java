@@ -286,6 +286,9 @@ public final class ExpressionTest {
         checks.global(script, 3, BOOLEAN, 1);
         checks.run("true && true ; @a ;", UNDEFINED);
         checks.gives("int f ( int a , boolean b ) { return a ; } f ( 5 , true && true ) ;", INT, 5);
+        checks.gives("int f ( int a , boolean b ) { return a ; } f ( 5 , false && true ) ;", INT, 5);
+        checks.gives("false == ( true || true ) ;", BOOLEAN, 0);
+        checks.gives("true == ( false && true ) ;", BOOLEAN, 0);
     }
 
     private static void wrongKinds(Checks checks) {

@@ -120,6 +120,8 @@ public final class GrammarTest {
         checks.passes("if ( true ) ".repeat(34) + "{ ; }");
         checks.passes("if ( false ) ; else ".repeat(23) + ";");
         checks.passes("while ( false ) ".repeat(34) + "{ ; }");
+        checks.gives("1 ; ".repeat(69) + "2 ;", LooseShell.INT, 2);
+        checks.gives("a = 1 ; " + "a += 1 ; ".repeat(33) + "a ;", LooseShell.INT, 34);
     }
 
     private static void theFirstOfSeveral(Checks checks) {
@@ -351,6 +353,12 @@ public final class GrammarTest {
         checks.passes("int m ( int n , var o , byte p ) { } { " + EIGHT + "}");
         checks.passes("int i ; int j ; { " + EIGHT + "}");
         checks.passes("int m ( int n , var o , byte p ) { { " + FIVE + "} { " + FIVE + "} " + FIVE + "}");
+        Script script = new Script();
+        checks.run(script, "{ " + EIGHT + "@)", LooseShell.SYNTAX);
+        checks.passes(script, "{ " + EIGHT + "}");
+        checks.run(script, "int m ( int n ) { " + FIVE + "@)", LooseShell.SYNTAX);
+        checks.passes(script, "int m ( int n ) { " + FIVE + "int f ; int g ; } n = 1 ;");
+        checks.global(script, 'n' - 'a', LooseShell.INT, 1);
         checks.passes("{ int i ; { " + FIVE + "int f ; int g ; } int j ; int k ; int l ; int m ; int n ; int o ; int p ; }");
     }
 
@@ -363,10 +371,13 @@ public final class GrammarTest {
         int wholeItems = tokens.lastIndexOf("print");
         for (int length = 0; length < tokens.size(); length++) {
             String text = String.join(" ", tokens.subList(0, length));
+            String full = "; ".repeat(140 - length) + text;
             if (length == 0 || length == wholeItems) {
                 checks.passes(text);
+                checks.passes(full);
             } else {
                 checks.faulty(text + " @");
+                checks.faulty(full + " @");
             }
         }
         checks.passes(whole);

@@ -112,6 +112,12 @@ public final class MethodTest {
         checks.run(script, "@" + method(101), FULL);
         checks.passes(script, method(100));
         checks.run(script, "@int g ( ) { }", FULL);
+        // All 240 are kept, and every one does what it stands for.
+        script = new Script();
+        checks.passes(script, "int f ( ) { " + "1 ; ".repeat(65) + "return 5 ; }");
+        checks.passes(script, "int g ( ) { " + "a + 1 ; ".repeat(22) + "a += 1 ; return 6 ; }");
+        checks.run(script, "@int h ( ) { }", FULL);
+        checks.gives(script, "a = 2 ; ( f ( ) * 10 + g ( ) ) * 10 + a ;", INT, 563);
         // Two of one text count one after the other, and different ones together.
         script = new Script();
         checks.passes(script, "int g ( int a , int b ) { print ( a ) ; return 1 + 2 ; } " + method(100));
@@ -191,6 +197,15 @@ public final class MethodTest {
         checks.run("int p ( ) { } @o ( ) ;", NO_METHOD);
         checks.run("int f ( int a , int b ) { } @f ( 1 , true ) ;", NO_METHOD);
         checks.run("int f ( int a , int b ) { } 1 + @f ( true , 1 ) ;", NO_METHOD);
+        String[] given = {"", "boolean a ", "boolean a , boolean b ", "boolean a , boolean b , boolean c "};
+        String[] called = {"", "false ", "false , false ", "false , false , false "};
+        for (int i = 0; i < 64; i++) {
+            for (int k = 0; k < 64; k++) {
+                String text = "int " + (char) ('a' + i / 4) + " ( " + given[i % 4] + ") { } "
+                    + (i == k ? "" : "@") + (char) ('a' + k / 4) + " ( " + called[k % 4] + ") ;";
+                checks.run(text, i == k ? LooseShell.OK : NO_METHOD);
+            }
+        }
     }
 
     private static void special(Checks checks) {
@@ -249,10 +264,22 @@ public final class MethodTest {
         checks.run("int f ( ) { return @f ( ) ; } f ( ) ;", DEEP);
         checks.run("int f ( ) { return g ( ) ; } int g ( ) { return @f ( ) ; } f ( ) ;", DEEP);
         checks.run("int f ( ) { return @g ( ) ; } int g ( ) { return f ( ) ; } g ( ) ;", DEEP);
-        // With the operands and locals of all callers waiting.
+        waitingCallers(checks);
         checks.gives("int f ( int a ) { if ( a == 0 ) return 0 ; return 1 + ( 1 + ( 1 + ( 1 + f ( a - 1 ) ) ) ) ; } f ( 7 ) ;", INT, 28);
-        checks.gives("int f ( int a ) { int b = a ; int c = b ; int d = c ; int e = d ; int g = e ; int h = g ; int i = h ;"
-            + " if ( a > 1 ) f ( a - 1 ) ; return b + c + d + e + g + h + i ; } f ( 8 ) ;", INT, 56);
+    }
+
+    /** With as many locals and operands as there can be, in all of the callers and in the last of the calls. */
+    private static void waitingCallers(Checks checks) {
+        checks.gives("int f ( int a ) { int b = a ; int c = b + 1 ; int d = c + 1 ; int e = d + 1 ; int g = e + 1 ; int h = g + 1 ;"
+            + " int i = h + 1 ; if ( a > 1 ) a += f ( a - 1 ) ; return a + b + c + d + e + g + h + i ; } f ( 8 ) ;", INT, 456);
+        String part = "1 | 2 ^ 3 & 4 << 5 + 6 * ";
+        Script script = new Script();
+        checks.passes(script, "int f ( int a ) { if ( a == 0 ) return 9 ; return " + part + "( " + part + "f ( a - 1 ) ) ; }");
+        int due = 9;
+        for (int i = 0; i < 7; i++) {
+            due = 1 | 2 ^ 3 & 4 << 5 + 6 * (1 | 2 ^ 3 & 4 << 5 + 6 * due);
+        }
+        checks.gives(script, "f ( 7 ) ;", INT, due);
     }
 
     private static void depthThatIsLeft(Checks checks) {

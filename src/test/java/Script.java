@@ -27,13 +27,13 @@ final class Script {
         return shell.run();
     }
 
-    /** Puts the text in; a token that the shell refuses is an error of the test. */
-    void put(String text) {
+    /** Puts the text in; answers false if the shell refused a token of it. */
+    boolean put(String text) {
+        boolean taken = true;
         for (String token : tokensOf(text)) {
-            if (!putToken(token)) {
-                throw new IllegalStateException("the shell refused " + token + " in: " + text);
-            }
+            taken = putToken(token) && taken;
         }
+        return taken;
     }
 
     /** All that can be asked of the shell, in one line; globals that are not there are left out. */

@@ -128,9 +128,9 @@ public final class ShellTest {
         String[] ends = {";", "}"};
         for (String end : ends) {
             script = new Script();
-            script.put("; ".repeat(139) + end);
+            checks.put(script, "; ".repeat(139) + end);
             script.shell.run();
-            script.put("; ".repeat(139));
+            checks.put(script, "; ".repeat(139));
             checks.same("the 140th token of the next text", script.putToken(";"), true);
             checks.same("the 141st", script.putToken(";"), false);
             checks.passes(script, "");
@@ -170,7 +170,7 @@ public final class ShellTest {
         script.shell.reset();
         checks.same("the answers", script.answers(), Script.FRESH);
         checks.run(script, "int a = 1 ; b = 7L ; int f ( ) { } print ( 2 ) ; 5 ; 1 @/ 0 ;", ZERO);
-        script.put("int b =");
+        checks.put(script, "int b =");
         for (int i = 0; i < 2; i++) {
             script.shell.reset();
             checks.same("the answers", script.answers(), Script.FRESH);
@@ -196,7 +196,7 @@ public final class ShellTest {
         }
         Script script = new Script();
         for (int i = 0; i < 2; i++) {
-            script.put("; ".repeat(140));
+            checks.put(script, "; ".repeat(140));
             script.shell.reset();
         }
         checks.same("a token after reset", script.putToken(";"), true);
@@ -226,7 +226,7 @@ public final class ShellTest {
             checks.passes(script, "a = 0 ; while ( a < " + count + " ) print ( a += 1 ) ;");
             checks.same("outputs", script.shell.outputs(), count);
         }
-        script.put("print ( 1 ) ;");
+        checks.put(script, "print ( 1 ) ;");
         checks.same("outputs before the next run", script.shell.outputs(), 2);
         checks.passes(script, "");
         checks.same("outputs after it", script.shell.outputs(), 1);
@@ -283,7 +283,7 @@ public final class ShellTest {
         Script script = new Script();
         checks.same("errorAt of a new shell", script.shell.errorAt(), -1);
         checks.run(script, "1 ; @a ;", UNDEFINED);
-        script.put("a = 3 ; a");
+        checks.put(script, "a = 3 ; a");
         checks.same("errorAt while a text is given", script.shell.errorAt(), 2);
         checks.passes(script, ";");
         checks.run(script, "a @", SYNTAX);

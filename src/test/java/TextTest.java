@@ -99,7 +99,7 @@ public final class TextTest {
     /** A call that is refused in the midst of a text: all answers stay, and the text goes on without it. */
     private static void changesNothing(Checks checks, String call, Predicate<LooseShell> refused) {
         Script script = used();
-        script.put("a =");
+        checks.put(script, "a =");
         String before = script.answers();
         checks.same(call, refused.test(script.shell), false);
         checks.same("the answers after " + call, script.answers(), before);
@@ -109,7 +109,7 @@ public final class TextTest {
     /** The text has room for one token more, and with it ends too early. */
     private static void isThe140th(Checks checks, String call, Predicate<LooseShell> taken) {
         Script script = used();
-        script.put("; ".repeat(139));
+        checks.put(script, "; ".repeat(139));
         checks.same(call + " as the 140th", taken.test(script.shell), true);
         checks.same("run with " + call + " as the 140th", script.shell.run(), LooseShell.SYNTAX);
         checks.same("errorAt", script.shell.errorAt(), 140);
@@ -118,7 +118,7 @@ public final class TextTest {
     /** All of these tokens would be faulty at the end of this text, or in the place of its last one. */
     private static void isNotThe141st(Checks checks, String call, Predicate<LooseShell> refused) {
         Script script = used();
-        script.put("; ".repeat(136) + "a = 7 ;");
+        checks.put(script, "; ".repeat(136) + "a = 7 ;");
         String before = script.answers();
         for (int i = 0; i < 2; i++) {
             checks.same(call + " as the 141st", refused.test(script.shell), false);

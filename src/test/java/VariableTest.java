@@ -137,6 +137,10 @@ public final class VariableTest {
         checks.gives("int f ( int a ) { { int a = 5 ; } return a ; } f ( 3 ) ;", INT, 3);
         checks.gives("int f ( int a ) { a = 9 ; return a ; } a = 1 ; f ( 3 ) + a ;", INT, 10);
         checks.gives("int f ( int a ) { if ( a == 0 ) return 0 ; int b = a ; f ( a - 1 ) ; return b ; } f ( 5 ) ;", INT, 5);
+        // Every call has its own.
+        checks.gives("int f ( int a ) { if ( a > 0 ) f ( a - 1 ) ; return a ; } f ( 5 ) ;", INT, 5);
+        checks.gives("int f ( int a , int b ) { if ( a > 0 ) f ( a - 1 , 7 ) ; return a * 10 + b ; } f ( 5 , 6 ) ;", INT, 56);
+        checks.gives("int f ( ) { int a = b ; b -= 1 ; if ( b > 0 ) f ( ) ; return a ; } b = 5 ; { int a = 100 ; c = f ( ) + a ; } c ;", INT, 105);
         // What is open where a method is called is not its own.
         checks.run("int f ( ) { return @a ; } { int a = 3 ; f ( ) ; }", UNDEFINED);
         checks.run("int f ( ) { return @a ; } int g ( int a ) { return f ( ) ; } g ( 3 ) ;", UNDEFINED);
@@ -340,6 +344,8 @@ public final class VariableTest {
         checks.gives("byte a ; a = 5 ;", BYTE, 5);
         checks.gives("long a ; b = a = 5 ; b ;", LONG, 5);
         checks.gives("{ long a ; b = ( a = 5 ) ; } b ;", LONG, 5);
+        checks.gives("false == ( a = true ) ;", BOOLEAN, 0);
+        checks.gives("7 - ( a = 5 ) ;", INT, 2);
         checks.run("int a ; a @= true ;", KIND);
         checks.run("int a ; byte c ; c @= a = 4 ;", KIND);
         Script script = new Script();
