@@ -270,10 +270,12 @@ public final class MethodTest {
 
     /** With as many locals and operands as there can be, in all of the callers and in the last of the calls. */
     private static void waitingCallers(Checks checks) {
-        checks.gives("int f ( int a ) { int b = a ; int c = b + 1 ; int d = c + 1 ; int e = d + 1 ; int g = e + 1 ; int h = g + 1 ;"
-            + " int i = h + 1 ; if ( a > 1 ) a += f ( a - 1 ) ; return a + b + c + d + e + g + h + i ; } f ( 8 ) ;", INT, 456);
-        String part = "1 | 2 ^ 3 & 4 << 5 + 6 * ";
         Script script = new Script();
+        checks.gives(script, "int f ( int a ) { int b = a ; int c = b + 1 ; int d = c + 1 ; int e = d + 1 ; int g = e + 1 ; int h = g + 1 ;"
+            + " int i = h + 1 ; if ( a > 1 ) a += f ( a - 1 ) ; return a + b + c + d + e + g + h + i ; } f ( 8 ) ;", INT, 456);
+        checks.same("the answers", script.answers(), "outputs 0:, errorAt -1, result 3/456, globals:, methods 1");
+        String part = "1 | 2 ^ 3 & 4 << 5 + 6 * ";
+        script = new Script();
         checks.passes(script, "int f ( int a ) { if ( a == 0 ) return 9 ; return " + part + "( " + part + "f ( a - 1 ) ) ; }");
         int due = 9;
         for (int i = 0; i < 7; i++) {
